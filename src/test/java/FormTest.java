@@ -13,6 +13,7 @@ public final class FormTest {
         trees();
         sorted();
         sizes();
+        allNodes();
         asking();
         CHECK.end();
     }
@@ -131,6 +132,21 @@ public final class FormTest {
         }
         sizes("24 nodes, a tree", heap(nodes), 5, 24);
         forms("24 nodes, a tree", heap(nodes), "0100111");
+    }
+
+    private static void allNodes() {
+        int[][] nodes = new int[24][];
+        for (int i = 0; i < 24; i++) {
+            nodes[i] = n(i, i + 1 < 24 ? i + 1 : NONE, i > 0 ? i - 1 : NONE);
+        }
+        ShapeForms x = heap(nodes);
+        forms("24 nodes, doubly", x, "0110011");
+        x.link(23, 0, 0);
+        forms("24 nodes, a ring", x, "0001001");
+        sizes("24 nodes, a ring", x, 24, 24);
+        x.link(23, 0, 23);
+        forms("24 nodes, the last one to itself", x, "0000001");
+        sizes("24 nodes, the last one to itself", x, 24, 24);
     }
 
     private static void asking() {
