@@ -189,11 +189,10 @@ public final class ClaimTest {
         x.op(3, 1, 0, 0);
         x.op(4, 1, 0, 1);
         claims("each node once", x, c(0, 3, 1, 0, 6), true, 3, 0);
-        claims("each node once, into a ring of others", x, c(0, 3, 2, 0, 6), true, 12, 0);
+        claims("each node once, rings of two", x, c(0, 3, 2, 0, 6), true, 12, 0);
     }
 
-    // Of two nodes the keys become 1, 0: so many of each only where they were 0, 1 or 1, 0; but
-    // where they are 0, 0 or 1 comes first nothing is done.
+    // Of two nodes whose keys rise the keys become 1, 0: as many of each only where they were 0, 1.
     private static void swapKeys(ShapeForms x) {
         x.op(5, 0, 59, 0);
         x.op(3, 1, 0, 0);
