@@ -1,10 +1,14 @@
 /**
  * All promises: many runs of calls, on the program and on the model beside it, with the whole
- * state looked at. The calls come from a counter that is mixed, so every run of the test is alike.
+ * state looked at in the end. The calls come from a counter that is mixed, so every run of the test
+ * is alike.
  */
 public final class ModelTest {
     private static final int NONE = ShapeForms.NONE;
-    private static final int RUNS = 4000;
+    private static final int RUNS = 20000;
+    // What later calls answer is free: a round is begun only if it, too, ends ahead of that.
+    private static final int CALLS = 512;
+    private static final int CALLS_AT_LAST_ROUND = 60;
     private static final int[] ODD = {
         -1, 2, 3, 7, 8, 23, 24, 59, 60, NONE, NONE + 1, Integer.MIN_VALUE, Integer.MAX_VALUE};
     private static final Check CHECK = new Check();
@@ -13,6 +17,7 @@ public final class ModelTest {
     private final Model y = new Model();
     private final String name;
     private long state;
+    private int calls;
 
     private ModelTest(int run) {
         name = "run " + run + ": ";
@@ -36,27 +41,35 @@ public final class ModelTest {
         return below(25) == 0 ? ODD[below(ODD.length)] : below(Math.max(bound, 1));
     }
 
+    private void due(String call, int got, int want) {
+        calls++;
+        CHECK.due(name + call, got, want);
+    }
+
     private void go() {
         int few = 2 + below(4);
-        for (int round = 0; round < 6; round++) {
-            build(few);
-            ask();
-            CHECK.due(name + "run()", x.run(), y.run());
-            ask();
-            for (int i = 0; i < 4; i++) {
-                claim(few);
-                ask();
-            }
+        while (calls <= CALLS_AT_LAST_ROUND) {
             forget();
+            build(few);
+            askSome();
+            due("run()", x.run(), y.run());
+            askSome();
+            int claims = below(4);
+            for (int i = 0; i < claims; i++) {
+                claim(few);
+                askSome();
+            }
         }
+        askAll();
+        CHECK.isTrue(name + "has " + CALLS + " calls at most, not " + calls, calls <= CALLS);
     }
 
     private void forget() {
         if (below(2) == 0) {
-            CHECK.due(name + "clear()", x.clear(), y.clear());
+            due("clear()", x.clear(), y.clear());
         }
         if (below(2) == 0) {
-            CHECK.due(name + "empty()", x.empty(), y.empty());
+            due("empty()", x.empty(), y.empty());
         }
     }
 
@@ -64,19 +77,19 @@ public final class ModelTest {
         int nodes = below(4) == 0 ? below(26) : below(6);
         for (int i = 0; i < nodes; i++) {
             int key = some(3);
-            CHECK.due(name + "node", x.node(key), y.node(key));
+            due("node", x.node(key), y.node(key));
         }
         int many = y.count(0);
         for (int i = 0; i < 2 * many; i++) {
             int node = some(many);
             int f = some(2);
             int to = below(4) == 0 ? NONE : some(many);
-            CHECK.due(name + "link", x.link(node, f, to), y.link(node, f, to));
+            due("link", x.link(node, f, to), y.link(node, f, to));
         }
         for (int i = 0; i < few; i++) {
             int variable = some(few);
             int node = below(4) == 0 ? NONE : some(many);
-            CHECK.due(name + "hold", x.hold(variable, node), y.hold(variable, node));
+            due("hold", x.hold(variable, node), y.hold(variable, node));
         }
         int length = below(20) == 0 ? 64 : below(14);
         for (int i = 0; i < length; i++) {
@@ -93,7 +106,7 @@ public final class ModelTest {
         int a = op == 8 ? jump(place, length) : some(few);
         int b = op == 4 ? some(2) : op == 5 ? jump(place, length) : op == 0 || op == 9 ? some(3) : some(few);
         int c = op == 3 ? some(2) : op == 6 || op == 7 ? jump(place, length) : some(few);
-        CHECK.due(name + "op(" + op + ", " + a + ", " + b + ", " + c + ")", x.op(op, a, b, c), y.op(op, a, b, c));
+        due("op(" + op + ", " + a + ", " + b + ", " + c + ")", x.op(op, a, b, c), y.op(op, a, b, c));
     }
 
     private int jump(int ahead, int length) {
@@ -107,27 +120,38 @@ public final class ModelTest {
         int end = below(2) == 0 ? start : some(few);
         int aim = below(3) == 0 ? form : some(7);
         boolean keys = below(2) == 0;
-        String call = name + "claim(" + start + ", " + form + ", " + n + ", " + end + ", " + aim + ", " + keys + ")";
-        CHECK.due(call, x.claim(start, form, n, end, aim, keys), y.claim(start, form, n, end, aim, keys));
-        CHECK.due(call + ", then why()", x.why(), y.why());
+        String call = "claim(" + start + ", " + form + ", " + n + ", " + end + ", " + aim + ", " + keys + ")";
+        due(call, x.claim(start, form, n, end, aim, keys), y.claim(start, form, n, end, aim, keys));
+        due(call + ", then why()", x.why(), y.why());
     }
 
-    private void ask() {
+    private void askSome() {
+        int v = below(8);
+        int form = below(7);
+        int node = some(y.count(0));
+        int what = below(3);
+        due("told(0)", x.told(0), y.told(0));
+        due("told(1)", x.told(1), y.told(1));
+        due("form(" + v + ", " + form + ")", x.form(v, form), y.form(v, form));
+        due("of(" + node + ", " + what + ")", x.of(node, what), y.of(node, what));
+    }
+
+    private void askAll() {
         for (int what = -1; what < 3; what++) {
-            CHECK.due(name + "told(" + what + ")", x.told(what), y.told(what));
-            CHECK.due(name + "count(" + what + ")", x.count(what), y.count(what));
+            due("told(" + what + ")", x.told(what), y.told(what));
+            due("count(" + what + ")", x.count(what), y.count(what));
         }
         for (int v = -1; v < 9; v++) {
-            CHECK.due(name + "held(" + v + ")", x.held(v), y.held(v));
-            CHECK.due(name + "size(" + v + ", false)", x.size(v, false), y.size(v, false));
-            CHECK.due(name + "size(" + v + ", true)", x.size(v, true), y.size(v, true));
+            due("held(" + v + ")", x.held(v), y.held(v));
+            due("size(" + v + ", false)", x.size(v, false), y.size(v, false));
+            due("size(" + v + ", true)", x.size(v, true), y.size(v, true));
             for (int form = -1; form < 8; form++) {
-                CHECK.due(name + "form(" + v + ", " + form + ")", x.form(v, form), y.form(v, form));
+                due("form(" + v + ", " + form + ")", x.form(v, form), y.form(v, form));
             }
         }
         for (int node = -1; node < 25; node++) {
             for (int what = -1; what < 4; what++) {
-                CHECK.due(name + "of(" + node + ", " + what + ")", x.of(node, what), y.of(node, what));
+                due("of(" + node + ", " + what + ")", x.of(node, what), y.of(node, what));
             }
         }
     }

@@ -5,12 +5,8 @@ public final class ProgramTest {
     private static final int NONE = ShapeForms.NONE;
     private static final Check CHECK = new Check();
 
-    // What a, b, c of each op are: v variable, f link, p place, - any number.
-    private static final String[] KINDS = {
-        "v--", "v--", "vv-", "vvf", "vfv", "vp-", "vvp", "vvp", "p--", "v--", "---"};
-
     public static void main(String[] args) {
-        for (int op = 0; op < KINDS.length; op++) {
+        for (int op = 0; op < Asked.HAS.length; op++) {
             for (int part = 0; part < 3; part++) {
                 edges(op, part);
             }
@@ -21,12 +17,8 @@ public final class ProgramTest {
         CHECK.end();
     }
 
-    private static int greatest(char kind) {
-        return kind == 'v' ? 7 : kind == 'f' ? 1 : 59;
-    }
-
     private static void edges(int op, int part) {
-        char kind = KINDS[op].charAt(part);
+        char kind = Asked.HAS[op].charAt(part);
         int[] far = {Integer.MIN_VALUE, NONE, -1, 60, 8, 2, Integer.MAX_VALUE};
         if (kind == '-') {
             for (int number : far) {
@@ -35,8 +27,8 @@ public final class ProgramTest {
             return;
         }
         one(op, part, 0, true);
-        one(op, part, greatest(kind), true);
-        one(op, part, greatest(kind) + 1, false);
+        one(op, part, Asked.greatest(kind), true);
+        one(op, part, Asked.greatest(kind) + 1, false);
         one(op, part, -1, false);
         one(op, part, NONE, false);
         one(op, part, Integer.MIN_VALUE, false);

@@ -16,7 +16,6 @@ public final class RunTest {
         goesOnBehindTheEnd();
         changesKeys();
         ends();
-        stepsRunOut();
         roomRunsOut();
         toldOutlives();
         CHECK.end();
@@ -171,50 +170,6 @@ public final class RunTest {
         runs("END", x, 0, 2, 1);
         CHECK.due("held(1)", x.held(1), NONE);
         CHECK.due("count(0)", x.count(0), 1);
-    }
-
-    private static void stepsRunOut() {
-        runs("GOTO itself", program(op(8, 0, 0, 0)), 2, 500, 0);
-        runs("500, then behind the last", lasting(500), 0, 500, 38);
-        runs("501, then behind the last", lasting(501), 2, 500, 38);
-        runs("499 and END", followed(499, 10), 0, 500, 38);
-        runs("500 and END", followed(500, 10), 2, 500, 38);
-        runs("499 and a link of nothing", followed(499, 3), 1, 500, 38);
-        runs("500 and a link of nothing", followed(500, 3), 2, 500, 38);
-        runs("499 and a 25th node", followed(499, 0), 3, 500, 38);
-        runs("500 and a 25th node", followed(500, 0), 2, 500, 38);
-        ShapeForms x = program(op(0, 0, 1, 0), op(8, 1, 0, 0));
-        runs("what was done stays", x, 2, 500, 1);
-        CHECK.due("held(0)", x.held(0), 0);
-    }
-
-    private static ShapeForms followed(int steps, int op) {
-        ShapeForms x = lasting(steps);
-        x.op(op, 6, 6, 0);
-        return x;
-    }
-
-    // Does just so many instructions: a loop of 20 over a list of 24 nodes, one to leave it, and
-    // behind it (from 20 on) as many as are over.
-    private static ShapeForms lasting(int steps) {
-        ShapeForms x = new ShapeForms();
-        for (int i = 0; i < 24; i++) {
-            x.node(0);
-        }
-        for (int i = 1; i < 24; i++) {
-            x.link(i - 1, 0, i);
-        }
-        x.hold(0, 0);
-        x.op(5, 0, 20, 0);
-        x.op(3, 0, 0, 0);
-        for (int i = 2; i < 19; i++) {
-            x.op(1, 7, 0, 0);
-        }
-        x.op(8, 0, 0, 0);
-        for (int i = 24 * 20 + 1; i < steps; i++) {
-            x.op(1, 7, 0, 0);
-        }
-        return x;
     }
 
     private static void roomRunsOut() {
