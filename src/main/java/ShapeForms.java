@@ -300,12 +300,20 @@ public final class ShapeForms {
         }
 
         private int mark(int node, int found) {
-            if (!isNode(node) || marked[node] || found < 0 || found >= NODES) {
+            if (found < 0 || found >= NODES || !takeMark(node)) {
                 return found;
             }
-            marked[node] = true;
             reached[found] = node;
             return found + 1;
+        }
+
+        /** Whether it is a node without a mark; it has one from now on. */
+        private boolean takeMark(int node) {
+            if (!isNode(node) || marked[node]) {
+                return false;
+            }
+            marked[node] = true;
+            return true;
         }
 
         private void clearMarks() {
@@ -372,16 +380,13 @@ public final class ShapeForms {
             clearMarks();
             // Marked from the outset, the first node may not be come to even once.
             if (found > 0) {
-                marked[reached[0]] = true;
+                takeMark(reached[0]);
             }
             for (int i = 0; i < found && i < NODES; i++) {
                 for (int f = 0; f < LINKS; f++) {
                     int to = target(reached[i], f);
-                    if (isNode(to)) {
-                        if (marked[to]) {
-                            return false;
-                        }
-                        marked[to] = true;
+                    if (to != NONE && !takeMark(to)) {
+                        return false;
                     }
                 }
             }
@@ -715,7 +720,7 @@ public final class ShapeForms {
             for (int i = 0; i < k; i++) {
                 heap.add(TREE_KEY);
                 if (i > 0) {
-                    if (open <= 0) {
+                    if (open <= 0 || open > waiting.length) {
                         return false;
                     }
                     open--;

@@ -9,12 +9,17 @@ import java.util.TreeSet;
 
 /** The public face of the document, and those rules of LANGUAGE.md that the text alone can show. */
 public final class FaceTest {
+    private static final int CLASSES = 12;
+    private static final int FIELDS = 20;
+    private static final int PARAMETERS = 7;
+    private static final int LINES = 60;
     private static final Check CHECK = new Check();
 
     public static void main(String[] args) throws Exception {
         methodsAreTheDocuments();
         restIsHidden();
         constants();
+        insideKeepsTheRules();
         if (args.length > 0) {
             sourceKeepsTheRules(Files.readString(Path.of(args[0])));
         }
@@ -77,6 +82,56 @@ public final class FaceTest {
         CHECK.due("NONE", ShapeForms.NONE, -99999999);
     }
 
+    // Rules 1, 2, 5 and 11 of LANGUAGE.md.
+    private static void insideKeepsTheRules() {
+        Class<?>[] inside = ShapeForms.class.getDeclaredClasses();
+        CHECK.isTrue("some twelve classes at most", inside.length + 1 <= CLASSES);
+        numbersKeepTheRules(ShapeForms.class);
+        for (Class<?> own : inside) {
+            numbersKeepTheRules(own);
+            CHECK.isTrue(own + " has no class inside", own.getDeclaredClasses().length == 0);
+            for (Method method : own.getDeclaredMethods()) {
+                CHECK.isTrue(method + " has a name of its own", !isPublicName(method.getName()));
+            }
+        }
+    }
+
+    private static boolean isPublicName(String name) {
+        for (Method method : ShapeForms.class.getDeclaredMethods()) {
+            if (Modifier.isPublic(method.getModifiers()) && method.getName().equals(name)) {
+                return true;
+            }
+        }
+        return false;
+    }
+
+    private static void numbersKeepTheRules(Class<?> own) {
+        int fields = 0;
+        for (Field field : own.getDeclaredFields()) {
+            boolean isStatic = Modifier.isStatic(field.getModifiers());
+            fields += isStatic ? 0 : 1;
+            CHECK.isTrue(field + " is final", !isStatic || Modifier.isFinal(field.getModifiers()));
+        }
+        CHECK.isTrue(own + " has some twenty fields at most", fields <= FIELDS);
+        for (Method method : own.getDeclaredMethods()) {
+            CHECK.isTrue(method + " takes seven numbers at most", method.getParameterCount() <= PARAMETERS);
+        }
+    }
+
+    private static void methodsAreShort(String source) {
+        String[] lines = source.split("\n");
+        for (int i = 0; i < lines.length; i++) {
+            if (lines[i].matches("( {4}| {8})\\w.*\\) \\{")) {
+                String indent = lines[i].replaceAll("\\S.*", "");
+                int end = i;
+                while (end < lines.length && !lines[end].equals(indent + "}")) {
+                    end++;
+                }
+                CHECK.isTrue("short: " + lines[i].trim(), end - i + 1 <= LINES);
+            }
+        }
+    }
+
     private static void sourceKeepsTheRules(String source) {
         String code = source.replaceAll("(?s)/\\*.*?\\*/", " ").replaceAll("//[^\n]*", " ");
         for (String word : new String[] {"throw", "throws", "try", "catch", "finally", "synchronized",
@@ -84,5 +139,6 @@ public final class FaceTest {
             CHECK.isTrue("no " + word + " in the code", !code.matches("(?s).*\\b" + word + "\\b.*"));
         }
         CHECK.isTrue("no lambda, no method reference", !code.contains("->") && !code.contains("::"));
+        methodsAreShort(source);
     }
 }
